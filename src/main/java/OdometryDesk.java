@@ -16,7 +16,7 @@ public final class OdometryDesk {
     private static final int[] HIGHEST = {2000, 2000, 1000, 200000, 100, 64, 100, 2000, 900000};
     private static final int[] FIRST_VALUES = {500, 500, 300, 20000, 50, 8, 30, 300, 100000};
 
-    private static final int STAND = 0, EVEN = 1, LEFT_SLIPS = 2, RIGHT_SLIPS = 3, SIGHT = 4, KINDS = 5;
+    private static final int STAND = 0, NO_SLIP = 1, LEFT_SLIPS = 2, RIGHT_SLIPS = 3, SIGHT = 4, KINDS = 5;
 
     /** Rows of a state: a sight has a marker of 0 or more, a step has NONE there. */
     private static final int LOG_MARKER = 0, LOG_LEFT = 1, LOG_RIGHT = 2, LOG_TURN = 3, LOG_ROWS = 4;
@@ -32,7 +32,7 @@ public final class OdometryDesk {
     private final State secondSlot = new State();
     private final Way way = new Way();
     private final Pad pad = new Pad();
-    private final int[] tried = new int[FIRST_VALUES.length];
+    private final int[] tried = FIRST_VALUES.clone();
 
     public OdometryDesk() {
     }
@@ -269,7 +269,7 @@ public final class OdometryDesk {
             return BAD_VALUE;
         }
         State kept = slotOf(slot);
-        kept.copyOf(state);
+        kept.takeOver(state);
         kept.isSaved = true;
         return state.entries;
     }
@@ -282,7 +282,7 @@ public final class OdometryDesk {
         if (!kept.isSaved) {
             return NOT_POSSIBLE;
         }
-        state.copyOf(kept);
+        state.takeOver(kept);
         return state.entries;
     }
 
@@ -314,8 +314,8 @@ public final class OdometryDesk {
     }
 
     private static boolean isSetting(int setting, int value) {
-        return isWithin(setting, 0, FIRST_VALUES.length - 1)
-            && isWithin(value, item(LOWEST, setting), item(HIGHEST, setting));
+        return setting >= 0 && setting < LOWEST.length && setting < HIGHEST.length
+            && isWithin(value, LOWEST[setting], HIGHEST[setting]);
     }
 
     private static int sine(int angle) {
@@ -333,7 +333,7 @@ public final class OdometryDesk {
         return (int) Math.floorMod(angle, (long) CIRCLE);
     }
 
-    // Every index and every divisor that is no constant goes through these, so that the machine never throws.
+    // Indexes and divisors that are no constants go through these, so that the machine never throws.
 
     private static long ratio(long whole, long divisor) {
         return divisor == 0 ? 0 : whole / divisor;
@@ -371,7 +371,7 @@ public final class OdometryDesk {
 
     /** All that is saved in a slot: the settings, the map, the start and the log. */
     private static final class State {
-        final int[] settings = new int[FIRST_VALUES.length];
+        final int[] settings = FIRST_VALUES.clone();
         final int[][] corridors = new int[CORRIDOR_ROWS][MOST_CORRIDORS];
         final int[][] markers = new int[2][MOST_MARKERS];
         final int[][] log = new int[LOG_ROWS][MOST_ENTRIES];
@@ -379,11 +379,7 @@ public final class OdometryDesk {
         int startX, startY, startHeading;
         boolean isSaved;
 
-        State() {
-            copy(FIRST_VALUES, settings);
-        }
-
-        void copyOf(State other) {
+        void takeOver(State other) {
             copy(other.settings, settings);
             copy(other.corridors, corridors);
             copy(other.markers, markers);
@@ -556,21 +552,21 @@ public final class OdometryDesk {
                 bias += (int) ratio(16 * measured - bias, item(settings, BIAS));
                 return;
             }
-            measureStep(settings, entry, (long) item(settings, LEFT) * left, (long) item(settings, RIGHT) * right);
+            weighStep(settings, entry, (long) item(settings, LEFT) * left, (long) item(settings, RIGHT) * right);
             keep(facts, TAKEN, entry, turn);
             keep(facts, DISTANCE, entry, distance);
             move();
             followCorridor(state, settings, entry);
         }
 
-        private void measureStep(int[] settings, int entry, long leftWay, long rightWay) {
+        private void weighStep(int[] settings, int entry, long leftWay, long rightWay) {
             long base = 1000L * item(settings, BASE);
             long byWheels = ratio((rightWay - leftWay) * RADIAN, base);
             long byRate = item(facts, MEASURED, entry) - bias / 16;
             keep(facts, BY_WHEELS, entry, (int) byWheels);
             if (Math.abs(byWheels - byRate) <= item(settings, SLIP)) {
                 int trust = item(settings, TRUST);
-                keepKind(entry, EVEN);
+                keepKind(entry, NO_SLIP);
                 turn = (int) ((trust * byWheels + (100 - trust) * byRate) / 100);
                 distance = (int) ((leftWay + rightWay) / 2);
                 return;
