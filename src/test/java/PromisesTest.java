@@ -43,6 +43,7 @@ public final class PromisesTest {
         test.load();
         test.save();
         test.restore();
+        test.restoreMap();
         test.anything();
         test.check.close("PromisesTest");
     }
@@ -354,6 +355,13 @@ public final class PromisesTest {
         due("10: rounded toward 0", desk.pose(3, 5), 31500 - 10071);
         due("10: a stand between steps", desk.pose(4, 6), 40000 - 25714);
         due("10: all of it", desk.pose(5, 6), -20000);
+        desk.cut(7);
+        // The right wheel slips: s is -190983 * 300000 / 572958 = -99998, the distance (50000 + 50000 - 99998) / 2.
+        desk.step(100, 100, -190983);
+        desk.see(0);
+        due("10: the least way: p1", desk.pose(1, 3), 1);
+        due("10: the least way: x", desk.pose(0, 5), 10000);
+        due("10: the least way: y", desk.pose(0, 6), -20000);
     }
 
     // ---- 11
@@ -624,6 +632,10 @@ public final class PromisesTest {
             due("13: the cosine of " + wave[0], desk.wave(wave[0], 1), cosine);
             due("13: the cosine of " + wave[0] + " nearly", Math.abs(cosine - wave[2]) < 1800 ? 1 : 0, 1);
         }
+        for (int angle = 0; angle < 36000; angle++) {
+            due("13: wave(" + angle + ", 0)", desk.wave(angle, 0), Model.wave(angle));
+            due("13: wave(" + angle + ", 1)", desk.wave(angle, 1), Model.wave(angle + 9000L));
+        }
         due("13: the cosine of 0", desk.wave(0, 1), 1000000);
         due("13: the cosine of 27000", desk.wave(27000, 1), 0);
         due("13: the cosine of 6000", desk.wave(6000, 1), 500000);
@@ -654,6 +666,14 @@ public final class PromisesTest {
         due("14: y", desk.ifSet(OdometryDesk.TRUST, 100, 1), 0);
         due("14: the heading", desk.ifSet(OdometryDesk.TRUST, 0, 2), 0);
         due("14: steps with slip", desk.ifSet(OdometryDesk.SLIP, 14999, 3), 2);
+        desk.step(100, 100, 15000);
+        due("14: with slip of either wheel", desk.ifSet(OdometryDesk.SLIP, 14999, 3), 3);
+        desk.cut(2);
+        due("14: with slip of the left wheel", desk.ifSet(OdometryDesk.SLIP, 14999, 3), 1);
+        desk.cut(1);
+        desk.step(100, 100, -15000);
+        due("14: with slip of the right wheel", desk.ifSet(OdometryDesk.SLIP, 14999, 3), 1);
+        desk.step(100, 100, 15000);
         due("14: steps without slip", desk.ifSet(OdometryDesk.SLIP, 15000, 3), 0);
         due("14: the sum of the errors", desk.ifSet(OdometryDesk.RIGHT, 502, 4), 10100);
         desk.set(OdometryDesk.SLIP, 14999);
@@ -885,7 +905,8 @@ public final class PromisesTest {
         for (int setting = 0; setting < 9; setting++) {
             desk.set(setting, LOWEST[setting] + 50 - (setting == 5 ? 10 : 0));
         }
-        desk.corridor(0, 0, 1000, 0, 0);
+        desk.set(OdometryDesk.TOLERANCE, 800000);
+        desk.corridor(0, 0, 1000, 0, 3);
         desk.corridor(-1000, -2000, 3000, 4000, 1);
         desk.marker(11, 12);
         desk.marker(13, 14);
@@ -917,7 +938,6 @@ public final class PromisesTest {
         desk.closeCorridor();
         desk.closeCorridor();
         desk.corridor(7, 7, 7, 7, 7);
-        desk.corridor(8, 8, 8, 8, 8);
         desk.marker(15, 16);
         desk.begin(-5, -6, 70);
         desk.cut(4);
@@ -979,6 +999,34 @@ public final class PromisesTest {
         desk.restore(1);
         desk.restore(0);
         due("22: what was saved last", desk.count(12), 777);
+    }
+
+    private void restoreMap() {
+        OdometryDesk desk = new OdometryDesk();
+        desk.marker(1, 2);
+        desk.step(1, 1, 0);
+        desk.save(0);
+        desk.marker(3, 4);
+        desk.corridor(-9, -9, 9, 9, 0);
+        desk.see(1);
+        desk.save(1);
+        desk.restore(0);
+        due("22: one marker", desk.count(10), 1);
+        due("22: no corridor", desk.count(9), 0);
+        due("22: it pulls no more", desk.about(0, 7), NONE - GONE);
+        due("22: another second marker", desk.marker(5, 6), 1);
+        due("22: another corridor", desk.corridor(500, 500, 500, 500, 50), 0);
+        desk.see(1);
+        due("22: the other marker", desk.pose(1, 0), 5000);
+        desk.restore(1);
+        due("22: two markers", desk.count(10), 2);
+        due("22: the marker as it was: x", desk.pose(1, 0), 3000);
+        due("22: the marker as it was: y", desk.pose(1, 1), 4000);
+        due("22: the corridor as it was", desk.about(0, 8), 0);
+        desk.restore(0);
+        desk.see(0);
+        desk.restore(0);
+        due("22: the slot keeps its log", desk.count(5), 0);
     }
 
     // ---- rule 7 of the language: no call throws by itself
