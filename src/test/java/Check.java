@@ -4,6 +4,16 @@ import java.util.function.IntSupplier;
 final class Check {
     private int passed;
     private int failed;
+    private String topic = "";
+
+    /** What all answers are about from here on; it is told with those that are not due. */
+    void tellOf(String words) {
+        topic = words;
+    }
+
+    int made() {
+        return passed + failed;
+    }
 
     void due(String what, long got, long want) {
         if (got == want) {
@@ -12,7 +22,7 @@ final class Check {
         }
         failed++;
         if (failed <= 40) {
-            System.out.println(what + " answered " + got + ", due is " + want);
+            System.out.println(topic + what + " answered " + got + ", due is " + want);
         }
     }
 

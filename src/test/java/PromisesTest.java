@@ -1,14 +1,5 @@
 /** The promises of the document one after the other: ordinary inputs, the edges that it names, wrong inputs. */
-public final class PromisesTest {
-    private static final int NO_SUCH = -1, BAD_VALUE = -2, BAD_TEXT = -3, TOO_MANY = -4, NOT_POSSIBLE = -5, NONE = -6;
-    private static final int GONE = 1000000000;
-    private static final int MIN = Integer.MIN_VALUE, MAX = Integer.MAX_VALUE;
-    private static final int[] FIRST = {500, 500, 300, 20000, 50, 8, 30, 300, 100000};
-    private static final int[] LOWEST = {100, 100, 100, 0, 0, 1, 0, 0, 0};
-    private static final int[] HIGHEST = {2000, 2000, 1000, 200000, 100, 64, 100, 2000, 900000};
-
-    private final Check check = new Check();
-
+public final class PromisesTest extends Desks {
     public static void main(String[] args) {
         PromisesTest test = new PromisesTest();
         test.newObject();
@@ -46,33 +37,6 @@ public final class PromisesTest {
         test.restoreMap();
         test.anything();
         test.check.close("PromisesTest");
-    }
-
-    private void due(String what, long got, long want) {
-        check.due(what, got, want);
-    }
-
-    /** Puts a text of any length on the pad. */
-    private static void write(OdometryDesk desk, String text) {
-        for (int i = 0; i < text.length(); i += 8) {
-            desk.put(number(text.substring(i, Math.min(text.length(), i + 8))));
-        }
-    }
-
-    private static long number(String text) {
-        long number = 0;
-        for (char sign : text.toCharArray()) {
-            number = number * 256 + sign;
-        }
-        return number;
-    }
-
-    private static OdometryDesk withEntries(int many) {
-        OdometryDesk desk = new OdometryDesk();
-        for (int i = 0; i < many; i++) {
-            desk.step(10, 10, 0);
-        }
-        return desk;
     }
 
     // ---- 1
@@ -183,7 +147,7 @@ public final class PromisesTest {
     // ---- 6
 
     private void begin() {
-        OdometryDesk desk = withEntries(2);
+        OdometryDesk desk = withSteps(2);
         for (int value : new int[] {-100001, 100001, MIN, MAX}) {
             due("6: begin(" + value + ", 0, 0)", desk.begin(value, 0, 0), BAD_VALUE);
             due("6: begin(0, " + value + ", 0)", desk.begin(0, value, 0), BAD_VALUE);
@@ -250,7 +214,7 @@ public final class PromisesTest {
     // ---- 9
 
     private void cut() {
-        OdometryDesk desk = withEntries(5);
+        OdometryDesk desk = withSteps(5);
         for (int value : new int[] {0, -1, 6, MIN, MAX}) {
             due("9: cut(" + value + ")", desk.cut(value), BAD_VALUE);
         }
@@ -593,17 +557,6 @@ public final class PromisesTest {
         }
     }
 
-    /** Two markers as far apart as can be, seen by turns: 200 million at first, 400 million each time. */
-    private static OdometryDesk farApart(int sights) {
-        OdometryDesk desk = new OdometryDesk();
-        desk.marker(-100000, -100000);
-        desk.marker(100000, 100000);
-        for (int i = 0; i < sights; i++) {
-            desk.see(i % 2);
-        }
-        return desk;
-    }
-
     private void countIsCut() {
         OdometryDesk desk = farApart(5);
         due("12: below the cut", desk.count(7), 1800000000);
@@ -633,6 +586,7 @@ public final class PromisesTest {
             due("13: the cosine of " + wave[0] + " nearly", Math.abs(cosine - wave[2]) < 1800 ? 1 : 0, 1);
         }
         for (int angle = 0; angle < 36000; angle++) {
+            desk = angle % 250 == 0 ? new OdometryDesk() : desk;
             due("13: wave(" + angle + ", 0)", desk.wave(angle, 0), Model.wave(angle));
             due("13: wave(" + angle + ", 1)", desk.wave(angle, 1), Model.wave(angle + 9000L));
         }
@@ -881,7 +835,7 @@ public final class PromisesTest {
             due("20: entry " + (fact[0] - 1) + ", " + fact[1], desk.about(fact[0] - 1, fact[1]), fact[2]);
         }
         due("20: a step, then a marker that there is not", loaded(desk, "1,1,1;m1"), 1);
-        desk = withEntries(118);
+        desk = withSteps(118);
         due("20: until the log is full", loaded(desk, "5,5,5;6,6,6;7,7,7"), 2);
         due("20: the last one", desk.about(119, 1), 6);
         due("20: the pad is empty again", desk.wipe(), 0);
@@ -899,37 +853,6 @@ public final class PromisesTest {
     }
 
     // ---- 21 and 22
-
-    private static OdometryDesk furnished() {
-        OdometryDesk desk = new OdometryDesk();
-        for (int setting = 0; setting < 9; setting++) {
-            desk.set(setting, LOWEST[setting] + 50 - (setting == 5 ? 10 : 0));
-        }
-        desk.set(OdometryDesk.TOLERANCE, 800000);
-        desk.corridor(0, 0, 1000, 0, 3);
-        desk.corridor(-1000, -2000, 3000, 4000, 1);
-        desk.marker(11, 12);
-        desk.marker(13, 14);
-        desk.begin(1, 2, 30);
-        desk.step(100, 101, 500);
-        desk.step(0, 0, 500);
-        desk.see(1);
-        desk.step(50, 51, 52);
-        return desk;
-    }
-
-    private static String allOf(OdometryDesk desk) {
-        StringBuilder all = new StringBuilder();
-        for (int what = 0; what < 21; what++) {
-            all.append(what == 11 ? 0 : desk.count(what)).append(' ');
-        }
-        for (int entry = -1; entry < desk.count(0); entry++) {
-            for (int what = 0; what < 11; what++) {
-                all.append(desk.pose(entry, what)).append(' ').append(desk.about(entry, what)).append(' ');
-            }
-        }
-        return all.toString();
-    }
 
     private static void overturn(OdometryDesk desk) {
         for (int setting = 0; setting < 9; setting++) {
