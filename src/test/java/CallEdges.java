@@ -400,6 +400,12 @@ final class CallEdges extends Desks {
         desk.set(OdometryDesk.PULL, 50);
         desk.corridor(0, 0, 0, 0, 100);
         due("the heading", desk.pose(1, 2), 5000);
+        desk.begin(6, 8, 0);
+        desk.cut(4);
+        desk.step(2, 2, 0);
+        desk.see(0);
+        due("no error is spread to the start: x", desk.pose(-1, 5), 6000);
+        due("no error is spread to the start: y", desk.pose(-1, 6), 8000);
     }
 
     @Sentence(promise = {10}, says = "Returns the number; NO_SUCH minus GONE if there is no such entry;")
@@ -472,6 +478,7 @@ final class CallEdges extends Desks {
         due("the corridor", desk.about(5, 7), 0);
         // The heading is 1000 + 1904 + 30000 - 30000.
         due("by how much it pulled", desk.about(5, 8), 871);
+        due("the turn that was taken is without it", desk.about(5, 5), 0);
         due("the heading then", desk.pose(5, 2), 2904 - 871);
     }
 
@@ -855,6 +862,26 @@ final class CallEdges extends Desks {
         due("the least", desk.bestTrust(), 0);
     }
 
+    private void aroundZero(int turn, int markerX, int markerY, int wheel, int want) {
+        OdometryDesk desk = withStep(300, 300, turn);
+        desk.set(OdometryDesk.LEFT, wheel);
+        desk.set(OdometryDesk.RIGHT, wheel);
+        desk.marker(markerX, markerY);
+        desk.see(0);
+        boolean isTenBetter = desk.ifSet(OdometryDesk.TRUST, 10, 4) < desk.ifSet(OdometryDesk.TRUST, 0, 4);
+        due("0 or 10: the lesser error", isTenBetter ? 10 : 0, want);
+        due("0 or 10", desk.bestTrust(), want);
+    }
+
+    @Sentence(promise = {16}, says = "Finds the trust, of 0, 10, 20 and so on to 100,")
+    void zeroAndTen() {
+        // The trust of 1 would be better than both.
+        aroundZero(4000, 600, 2, 2000, 10);
+        aroundZero(6000, 600, 3, 2000, 10);
+        // Of 119 and 121, 0 has the lesser one.
+        aroundZero(15800, 150, 2, 500, 0);
+    }
+
     @Sentence(promise = {16}, says = "with which the sum of the errors (not cut at 2000000000) is least.")
     void theUncutSumForTheTrust() {
         OdometryDesk desk = farApart(120);
@@ -914,6 +941,30 @@ final class CallEdges extends Desks {
         check.holds("all of it is as it was", allOf(desk).equals(before));
         due("but for the pad", desk.count(11), 0);
         due("and slot 1", desk.restore(1), NOT_POSSIBLE);
+        write(desk, "m0;m1");
+        desk.restore(0);
+        due("the pad of now stays", desk.count(11), 5);
+        due("with its text", desk.fault(), NONE);
+    }
+
+    @Sentence(promise = {21, 22}, says = "Saves everything except the pad and the slots in a slot,")
+    void mapsAreSaved() {
+        OdometryDesk desk = withMarkers(1);
+        desk.step(1, 1, 0);
+        desk.save(0);
+        desk.marker(3, 4);
+        desk.corridor(0, 0, 0, 0, 100);
+        desk.see(1);
+        desk.save(1);
+        desk.restore(0);
+        due("the map is empty again: corridors", desk.count(9), 0);
+        due("the map is empty again: markers", desk.count(10), 1);
+        due("another marker", desk.marker(5, 6), 1);
+        due("another corridor", desk.corridor(500, 500, 500, 500, 50), 0);
+        desk.restore(1);
+        due("the first marker's x", desk.pose(1, 0), 3000);
+        due("the first marker's y", desk.pose(1, 1), 4000);
+        due("the first corridor", desk.about(0, 8), -3000);
     }
 
     @Sentence(promise = {21}, says = "and overwrites what was saved there.")

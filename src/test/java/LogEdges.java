@@ -267,6 +267,26 @@ final class LogEdges extends Desks {
         due("y at 30 degrees", desk.pose(0, 1), 300000);
     }
 
+    @Sentence(promise = {10, 11}, under = LOG,
+        says = "x increases by d * cosine / 1000000, y by d * sine / 1000000.")
+    void farthestStepsWithSlip() {
+        OdometryDesk desk = withStep(0, 0, 300000);
+        desk.step(-300, -300, -300000);
+        desk.set(OdometryDesk.BIAS, 1);
+        desk.set(OdometryDesk.LEFT, 2000);
+        desk.set(OdometryDesk.RIGHT, 2000);
+        desk.set(OdometryDesk.BASE, 1000);
+        // v is -600000, s -1047197, and half of -600000 and -1647197 is -1123598.5.
+        desk.begin(0, 0, 300000);
+        due("the distance", desk.about(1, 6), -1123598);
+        due("x", desk.pose(1, 0), -1123598);
+        due("no y", desk.pose(1, 1), 0);
+        desk.begin(0, 0, 1200000);
+        due("y", desk.pose(1, 1), -1123598);
+        due("no x", desk.pose(1, 0), 0);
+        due("the way", desk.pose(1, 3), 1123598);
+    }
+
     @Sentence(promise = {10, 12}, under = LOG,
         says = "The heading increases by the turn; the way increases by the absolute value of d.")
     void theWay() {
@@ -383,6 +403,11 @@ final class LogEdges extends Desks {
         due("the heading stays", desk.pose(2, 2), 3599999);
         due("no way to it", desk.pose(2, 3), 0);
         due("they are all counted", desk.count(5), 3);
+        desk.step(0, 0, 1);
+        desk.step(100, 100, 0);
+        desk.see(0);
+        due("the bias stays", desk.pose(5, 4), 2);
+        due("the way stays", desk.pose(5, 3), 50000);
     }
 
     // ---- spread errors

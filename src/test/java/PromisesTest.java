@@ -590,6 +590,7 @@ public final class PromisesTest extends Desks {
             due("13: wave(" + angle + ", 0)", desk.wave(angle, 0), Model.wave(angle));
             due("13: wave(" + angle + ", 1)", desk.wave(angle, 1), Model.wave(angle + 9000L));
         }
+        desk = new OdometryDesk();
         due("13: the cosine of 0", desk.wave(0, 1), 1000000);
         due("13: the cosine of 27000", desk.wave(27000, 1), 0);
         due("13: the cosine of 6000", desk.wave(6000, 1), 500000);
@@ -878,15 +879,19 @@ public final class PromisesTest extends Desks {
         due("21: nothing was saved in 1", desk.restore(1), NOT_POSSIBLE);
         String before = allOf(desk);
         due("21: save(1)", desk.save(1), 4);
-        check.holds("21: saving changes nothing", allOf(desk).equals(before));
         overturn(desk);
-        check.holds("21: all is other", !allOf(desk).equals(before));
-        due("21: save(0)", desk.save(0), 3);
         String after = allOf(desk);
+        check.holds("21: all is other", !after.equals(before));
+        due("21: save(0)", desk.save(0), 3);
         desk.restore(1);
         check.holds("21: slot 1 has what was saved there", allOf(desk).equals(before));
         desk.restore(0);
         check.holds("21: slot 0 has what was saved there", allOf(desk).equals(after));
+        desk = furnished();
+        desk.save(0);
+        check.holds("21: saving changes nothing", allOf(desk).equals(before));
+        desk = withSteps(3);
+        desk.save(1);
         desk.cut(1);
         due("21: overwritten", desk.save(1), 2);
         desk.cut(2);

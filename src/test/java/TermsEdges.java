@@ -212,6 +212,22 @@ final class TermsEdges extends Desks {
         due("a pull above 0: 4 * 30 / 100", desk.about(0, 8), 1);
     }
 
+    @Sentence(promise = {11}, under = "Terms", says = "Divisions are rounded toward 0.")
+    void divisionsOfPlaces() {
+        OdometryDesk desk = withStep(1, 1, 0);
+        desk.set(OdometryDesk.REACH, 0);
+        desk.corridor(0, 0, 0, 0, 0);
+        desk.corridor(0, 0, 0, 0, 9000);
+        desk.begin(0, 0, 1800000);
+        due("-500 / 1000 in x", desk.about(0, 7), 0);
+        desk.begin(0, 0, 2700000);
+        due("-500 / 1000 in y", desk.about(0, 7), 1);
+        desk.step(1, 1, 0);
+        due("-1000 / 1000 in y", desk.about(1, 7), NONE - GONE);
+        desk.begin(0, 0, 1800000);
+        due("-1000 / 1000 in x", desk.about(1, 7), NONE - GONE);
+    }
+
     @Sentence(promise = {10}, under = "Terms", says = "Divisions are rounded toward 0.")
     void divisionsOfSpreadErrors() {
         OdometryDesk desk = new OdometryDesk();
@@ -330,8 +346,8 @@ final class TermsEdges extends Desks {
         says = "The sine of an angle x from 0 to 18000 hundredths of a degree is 4000000 * u / (405000000 - u) with u = x * "
             + "(18000 - x);")
     void sineOfTheFirstHalf() {
-        int[][] sines = {{0, 0}, {1, 177}, {3000, 500000}, {8999, 999999}, {9000, 1000000}, {9001, 999999},
-            {15000, 500000}, {17999, 177}, {18000, 0}};
+        int[][] sines = {{0, 0}, {1, 177}, {2018, 346096}, {2069, 354384}, {3000, 500000}, {8999, 999999}, {9000, 1000000},
+            {9001, 999999}, {15000, 500000}, {17999, 177}, {18000, 0}};
         for (int[] sine : sines) {
             due("the sine of " + sine[0], new OdometryDesk().wave(sine[0], 0), sine[1]);
         }
@@ -500,22 +516,27 @@ final class TermsEdges extends Desks {
     void nearTheGreaterX() {
         check.holds("at it", isNear(210, 0));
         check.holds("above it", !isNear(211, 0));
+        int[] corridors = reachedBeyondTheEdge(0);
+        due("102000000", corridors[7], 0);
+        due("102000499 / 1000 is 102000", corridors[8], 0);
+        due("102000998 / 1000 is 102000", corridors[9], 0);
+        due("102001497 / 1000 is more", corridors[10], NONE - GONE);
+    }
+
+    /** From the greatest x or y 2000 mm on, then half a mm each time: the corridors that pulled. */
+    private static int[] reachedBeyondTheEdge(int heading) {
         OdometryDesk desk = new OdometryDesk();
         desk.set(OdometryDesk.LEFT, 1000);
         desk.set(OdometryDesk.RIGHT, 1000);
         desk.set(OdometryDesk.REACH, 2000);
-        desk.corridor(0, 0, 100000, 0, 0);
-        desk.begin(100000, 0, 0);
-        for (int i = 0; i < 8; i++) {
-            desk.step(250, 250, 0);
+        desk.corridor(0, 0, 100000, 100000, heading / 100);
+        desk.begin(100000, 100000, heading);
+        int[] corridors = new int[11];
+        for (int i = 0; i < 11; i++) {
+            desk.step(i < 8 ? 250 : 1, i < 8 ? 250 : 0, 0);
+            corridors[i] = desk.about(i, 7);
         }
-        due("102000000", desk.about(7, 7), 0);
-        desk.step(1, 0, 0);
-        due("102000499 / 1000 is 102000", desk.about(8, 7), 0);
-        desk.step(1, 0, 0);
-        due("102000998 / 1000 is 102000", desk.about(9, 7), 0);
-        desk.step(1, 0, 0);
-        due("102001497 / 1000 is more", desk.about(10, 7), NONE - GONE);
+        return corridors;
     }
 
     @Sentence(promise = {11}, under = MAP, says = "and the same for y.")
@@ -527,6 +548,11 @@ final class TermsEdges extends Desks {
         check.holds("at a corner", isNear(210, 60));
         check.holds("beyond a corner in y", !isNear(210, 61));
         check.holds("beyond a corner in x", !isNear(211, 60));
+        int[] corridors = reachedBeyondTheEdge(900000);
+        due("102000000", corridors[7], 0);
+        due("102000499 / 1000 is 102000", corridors[8], 0);
+        due("102000998 / 1000 is 102000", corridors[9], 0);
+        due("102001497 / 1000 is more", corridors[10], NONE - GONE);
     }
 
     @Sentence(promise = {3, 11}, under = MAP, says = "the lesser x of the corners")
