@@ -878,8 +878,8 @@ final class CallEdges extends Desks {
         // The trust of 1 would be better than both.
         aroundZero(4000, 600, 2, 2000, 10);
         aroundZero(6000, 600, 3, 2000, 10);
-        // Of 119 and 121, 0 has the lesser one.
-        aroundZero(15800, 150, 2, 500, 0);
+        // Of 119 and 121, 0 has the lesser one; the angle of a trust of -1 would be another one already.
+        aroundZero(15882, 150, 2, 500, 0);
     }
 
     @Sentence(promise = {16}, says = "with which the sum of the errors (not cut at 2000000000) is least.")
